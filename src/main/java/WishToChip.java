@@ -502,11 +502,9 @@ public final class WishToChip {
             return hasBit(told, name);
         }
 
+        /** Where TOKENS lie and in which order is told anew with each LINE, and not looked at without one. */
         void forget() {
             told = 0;
-            lines = 0;
-            Arrays.fill(from, 0);
-            Arrays.fill(to, 0);
             Arrays.fill(leans, 0);
             Arrays.fill(uses, 0);
         }
@@ -1107,7 +1105,7 @@ public final class WishToChip {
         int leastWire = 0;
         private boolean leastKnown = false;
         private final int[] tried = new int[MOST_BLOCKS];
-        /** The PLACES of each NET's BLOCKS that have been laid so far, as bits. */
+        /** The PLACES of each NET's BLOCKS that have been laid so far, as bits: none but while LEAST is looked for. */
         private final int[] netPlaces = new int[MOST_NETS];
 
         int addBlock() {
@@ -1184,7 +1182,6 @@ public final class WishToChip {
                 return;
             }
             leastWire = ENDLESS;
-            Arrays.fill(netPlaces, 0);
             layFrom(this, 0, 0);
             leastKnown = true;
         }

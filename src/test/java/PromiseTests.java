@@ -178,6 +178,8 @@ public final class PromiseTests {
         due("200 bytes", faultOf("g=a" + "~".repeat(196) + ";"), NONE);
         due("200 bytes without an end", faultOf("g=a" + "~".repeat(197)), 200);
         refused("fault", BAD, v -> text(0, "g").fault(v), -1, 2, LOW, HIGH);
+        WishToChip x = text(0, "g=a" + "~".repeat(196) + ";");
+        for (int k = 0; k < 5; k++) due("read again and again", x.fault(0), NONE);
     }
 
     private static int ringOf(String text, int what) {
@@ -411,6 +413,8 @@ public final class PromiseTests {
         due("all", built("p=a;q=b;r=c;s=d;", "").states(), 0xFFFF);
         due("all, told by one input and a row", built("p=f;q=p;r=q;s=r;", "").states(), 0xFFFF);
         due("those that can't be are left out", built("p=a;q=a~;", "").states(), bit(0, 1, 2));
+        due("by no inputs but 0", built("p=abcdef|||||~;", "").states(), 3);
+        due("by no inputs but 63", built("p=abcdef&&&&&;", "").states(), 3);
         WishToChip x = built("p=p~;q=qp^;r=rpq&^;s=spqr&&^;", "");
         due("counts through all", x.states(), 0xFFFF);
         WishToChip y = built("p=pa&;", "");
@@ -443,6 +447,10 @@ public final class PromiseTests {
         WishToChip w = built("", "p=p~;g=p;");
         due("STATES are THE WISH's, not THE NET's", w.differ(name('g')), NONE);
         due("the last ROW of a state", built("g=abcdef&&&&&;", "").differ(name('g')), 63);
+        due("alike in state 0, not in 1", built("p=a;g=pb&;", "g=pc&;").differ(name('g')), 64 + 2);
+        WishToChip last = built("g=abcdef&&&&&pqrs&&&&;", "");
+        last.start(15);
+        due("the last ROW", last.differ(name('g')), 1023);
         refused("differ", BAD, x::differ, -1, 0, 5, 19, LOW, HIGH);
     }
 
@@ -471,6 +479,9 @@ public final class PromiseTests {
         y.clear(0);
         put(y, 0, "p=a;q=a~;");
         due("in some ROW, be its state one that can't be", y.touched(), bits("g"));
+        WishToChip z = new WishToChip();
+        put(z, 0, "g=abcdefpqr&&&&&&&&s&;o=abcdefpqr||||||||s|~;");
+        due("in the first ROW alone, in the last alone", z.touched(), bits("go"));
     }
 
     // ---- gates, times
@@ -518,6 +529,7 @@ public final class PromiseTests {
     private static void cover() {
         due("a name", coverOf("a"), 0);
         due("a name turned", coverOf("a~"), 1);
+        due("a name turned, though another gate is cheaper", coverOf("a~", 5, 1, 1, 1, 1, 1, 1), 5);
         due("and turned again", coverOf("a~~"), 0);
         due("0", coverOf("0"), 0);
         due("1 turned", coverOf("1~"), 0);
@@ -541,6 +553,12 @@ public final class PromiseTests {
         due("^ of one turned, then ~", coverOf("a~b^~"), 5);
         due("^ of one turned: ~ is as dear behind it", coverOf("ab~^"), 6);
         due("^ of two that are cheaper turned", coverOf("ab&~cd&~^"), 9);
+        due("^ of another one turned, then ~", coverOf("ab~^~"), 5);
+        due("& of two unlike, both turned", coverOf("ab^c&", 1, 90, 90, 90, 2, 5, 6), 2 + 6 + 1);
+        due("| of two turned by a gate ~", coverOf("abc?def?|", 1, 90, 90, 2, 90, 5, 6), 2 + 7 + 7);
+        due("1 in the place of what was dearer", coverOf("abc^^1&"), 3 + 5 + 5);
+        due("? of two unlike", coverOf("abcd&?"), 6 + 3);
+        due("? of two unlike, both turned", coverOf("ab~cd&?~"), 6 + 2);
         due("?", coverOf("abc?"), 6);
         due("? chosen by one turned", coverOf("a~bc?"), 6);
         due("? of both turned, then ~", coverOf("ab~c~?~"), 6);
@@ -585,6 +603,12 @@ public final class PromiseTests {
         due("|", y.arrival(0, name('h'), 0), 2);
         due("a register as a TOKEN is there at 0", y.arrival(0, name('q'), 0), 0);
         due("~ and ~ , no cover; no LOAD for a register", y.arrival(0, name('p'), 0), 2);
+        WishToChip z = built("g=abcdef^^^^^;h=a~;i=bc&;j=def?;", "g=a;");
+        due("g", z.arrival(0, name('g'), 0), 15);
+        due("by no more than ~ takes", z.arrival(0, name('h'), 0), 1);
+        due("by no more than & takes", z.arrival(0, name('i'), 0), 2);
+        due("by no more than ? takes", z.arrival(0, name('j'), 0), 3);
+        due("not as in the other VIEW", z.arrival(1, name('h'), 0), 0);
         refused("arrival by view", BAD, v -> x.arrival(v, 6, 0), -1, 2, LOW, HIGH);
         refused("arrival of name", BAD, v -> x.arrival(0, v, 0), -1, 19, LOW, HIGH);
         refused("arrival at corner", BAD, v -> x.arrival(0, 6, v), -1, 3, LOW, HIGH);
@@ -717,6 +741,12 @@ public final class PromiseTests {
         dueLeast(x, 4, 0, 1, 2, 3);
         dueLeast(new WishToChip(), 0);
         dueLeast(blocks(7), 0, 0, 1, 2, 3, 4, 5, 6);
+        dueLeast(blocks(2, 3), 1, 0, 1);
+        dueLeast(blocks(3, 7), 2, 0, 1, 2);
+        dueLeast(blocks(4, 15), 2, 0, 1, 4, 5);
+        dueLeast(blocks(5, 31), 3, 0, 1, 2, 4, 5);
+        dueLeast(blocks(6, 63), 3, 0, 1, 2, 4, 5, 6);
+        dueLeast(blocks(3, 5, 6), 2, 0, 2, 1);
         dueLeast(blocks(4, 3, 5, 9), 3, 1, 0, 2, 5);
         dueLeast(blocks(4, 3, 6, 12, 9), 4, 0, 1, 5, 4);
         dueLeast(blocks(7, 127), 4, 0, 1, 2, 3, 4, 5, 6);
@@ -845,6 +875,9 @@ public final class PromiseTests {
         WishToChip z = built("", "g=a;h=b;");
         for (int row : new int[] {3, 1, 2, 0}) z.trial(row);
         due("1 and 2 are lower bits than 0 and 3", z.fewest(1), 2 | 4);
+        WishToChip w = built("", "g=ab&;");
+        for (int row : new int[] {1, 2, 3}) w.trial(row);
+        due("all of them", w.fewest(1), 7);
     }
 
     private static void see() {
@@ -894,6 +927,10 @@ public final class PromiseTests {
         x.ends(0);
         due("without ENDS nothing FAILS", x.could(-1), 39);
         refused("could", BAD, x::could, -2, LOW);
+        WishToChip y = built("", "g=ab&;h=a;");
+        y.trial(3);
+        y.see(0, bits("gh"));
+        dueCould(y, 0);
     }
 
     private static void parts() {
@@ -929,7 +966,14 @@ public final class PromiseTests {
         w.trial(0);
         w.trial(3);
         w.see(0, 0);
-        due("38 is counted with those alike: 2 of 36 part, so it parts", w.parts(), 1);
+        due("38 is among those to part", w.parts(), 1);
+        WishToChip empty = new WishToChip();
+        empty.trial(0);
+        due("39 are alike: it is the best there is", empty.parts(), 0);
+        WishToChip v = built("", "g=a;h=a~bcdef^^^^&;");
+        v.trial(1);
+        v.trial(0);
+        due("the greatest number of those alike, not the first: 36 and 31", v.parts(), 1);
     }
 
     private static void keep() {
