@@ -721,6 +721,9 @@ public final class PromiseTests {
         refused("wire", BAD, x::wire, 3, -2, LOW, HIGH);
         due("without NETS", blocks(2).wire(-1), 0);
         due("without NETS", blocks(2).wire(0), BAD);
+        WishToChip full = blocks(7, 3, 6, 12, 24, 48, 96, 65, 127);
+        due("eight NETS of seven BLOCKS", full.wire(-1), 1 + 1 + 1 + 4 + 1 + 1 + 3 + 4);
+        due("the last NET", full.wire(7), 4);
     }
 
     private static void dueLeast(WishToChip x, int wire, int... places) {
@@ -747,6 +750,7 @@ public final class PromiseTests {
         dueLeast(blocks(5, 31), 3, 0, 1, 2, 4, 5);
         dueLeast(blocks(6, 63), 3, 0, 1, 2, 4, 5, 6);
         dueLeast(blocks(3, 5, 6), 2, 0, 2, 1);
+        dueLeast(blocks(7, 3, 3, 3, 3, 3, 3, 3, 65), 8, 0, 1, 2, 3, 5, 6, 4);
         dueLeast(blocks(4, 3, 5, 9), 3, 1, 0, 2, 5);
         dueLeast(blocks(4, 3, 6, 12, 9), 4, 0, 1, 5, 4);
         dueLeast(blocks(7, 127), 4, 0, 1, 2, 3, 4, 5, 6);
@@ -878,6 +882,11 @@ public final class PromiseTests {
         WishToChip w = built("", "g=ab&;");
         for (int row : new int[] {1, 2, 3}) w.trial(row);
         due("all of them", w.fewest(1), 7);
+        WishToChip v = built("", "g=a;h=b;i=c;j=d;");
+        for (int row : new int[] {0, 15, 1}) v.trial(row);
+        due("0 and 1 of three", v.fewest(1), 1 | 2);
+        for (int row = 0; row < 7; row++) v.trial(row);
+        due("0 and 1 of ten", v.fewest(1), 1 | 2);
     }
 
     private static void see() {
@@ -970,6 +979,9 @@ public final class PromiseTests {
         WishToChip empty = new WishToChip();
         empty.trial(0);
         due("39 are alike: it is the best there is", empty.parts(), 0);
+        for (int row = 1; row < 10; row++) empty.trial(row);
+        for (int i = 0; i < 9; i++) empty.see(i, 0);
+        due("the last of ten", empty.parts(), 9);
         WishToChip v = built("", "g=a;h=a~bcdef^^^^&;");
         v.trial(1);
         v.trial(0);
