@@ -11,6 +11,7 @@ public final class GateEdges {
         rules();
         coverOfLeaves();
         coverOfGates();
+        coverTokenByToken();
         mostCover();
         coverOfNames();
         roundedUp();
@@ -170,6 +171,59 @@ public final class GateEdges {
         Due.due("a wire twice is no gate", Due.built("g=ab&;h=gg^;", "").cover(0, 7), 5);
     }
 
+    /** By the document's words, for one value as it is and turned. */
+    private static int[] covered(String tokens, int[] price) {
+        int[][] stack = new int[10][];
+        int size = 0;
+        for (char token : tokens.toCharArray()) {
+            int takes = token == '?' ? 3 : token == '~' ? 1 : "&|^".indexOf(token) >= 0 ? 2 : 0;
+            size -= takes;
+            int[] a = takes > 0 ? stack[size] : null;
+            int[] b = takes > 1 ? stack[size + 1] : null;
+            int[] c = takes > 2 ? stack[size + 2] : null;
+            stack[size++] = orByTheOther(price[0], coveredToken(token, price, a, b, c));
+        }
+        return stack[0];
+    }
+
+    private static int[] coveredToken(char token, int[] price, int[] a, int[] b, int[] c) {
+        switch (token) {
+            case '~': return new int[] {a[1], a[0]};
+            case '&': return new int[] {Math.min(price[1] + a[0] + b[0], price[4] + a[1] + b[1]),
+                Math.min(price[3] + a[0] + b[0], price[2] + a[1] + b[1])};
+            case '|': return new int[] {Math.min(price[2] + a[0] + b[0], price[3] + a[1] + b[1]),
+                Math.min(price[4] + a[0] + b[0], price[1] + a[1] + b[1])};
+            case '^': return new int[] {price[5] + Math.min(a[0] + b[0], a[1] + b[1]),
+                price[5] + Math.min(a[0] + b[1], a[1] + b[0])};
+            case '?': return new int[] {price[6] + Math.min(a[0], a[1]) + b[0] + c[0],
+                price[6] + Math.min(a[0], a[1]) + b[1] + c[1]};
+            default: return new int[] {0, token == '0' || token == '1' ? 0 : price[0]};
+        }
+    }
+
+    private static int[] orByTheOther(int turn, int[] both) {
+        return new int[] {Math.min(both[0], both[1] + turn), Math.min(both[1], both[0] + turn)};
+    }
+
+    private static void coverTokenByToken() {
+        Due.sentence(19, "THE COVER of a LINE: the least PRICE of gates by which its value is made, TOKEN by TOKEN, each as it is or turned (by ~):");
+        int[][] prices = {PRICES, {1, 1, 1, 1, 1, 1, 1}, {100, 100, 100, 100, 100, 100, 100}, {1, 100, 100, 2, 100, 5, 6},
+            {1, 100, 100, 100, 2, 5, 6}, {1, 2, 100, 100, 100, 5, 6}, {1, 100, 2, 100, 100, 5, 6}, {100, 9, 8, 7, 6, 5, 4},
+            {9, 4, 4, 8, 8, 1, 1}};
+        String[] values = {"a", "b~", "0", "ab&", "ab|~", "cd^", "a~b&", "cde?", "f~cd~?"};
+        for (int[] price : prices) {
+            for (String one : values) {
+                for (String other : values) {
+                    for (String gate : new String[] {"&", "|", "^", "e?", "e~?"}) {
+                        String tokens = one + other + gate;
+                        Due.due("cover of " + tokens, cover(tokens, price), covered(tokens, price)[0]);
+                        Due.due("cover of it turned", cover(tokens + "~", price), covered(tokens, price)[1]);
+                    }
+                }
+            }
+        }
+    }
+
     private static void mostCover() {
         Due.sentence(19, "with PRICE (1 to 100;");
         String most = "g=a" + "a&".repeat(98) + ";";
@@ -272,11 +326,24 @@ public final class GateEdges {
         Due.due("the middle one", y.arrival(0, 9, 0), 4);
         Due.due("the topmost", y.arrival(0, 10, 0), 4);
         Due.due("the greatest of two", y.arrival(0, 11, 0), 5);
+        WishToChip behind = Due.built("g=abcd^^^;h=abcd~~~~&&&;i=a~;j=ab|;k=abc?;l=ab&c&;", "");
+        Due.due("by no more than ~ takes", behind.arrival(0, 8, 0), 1);
+        Due.due("by no more than | takes", behind.arrival(0, 9, 0), 2);
+        Due.due("by no more than ? takes", behind.arrival(0, 10, 0), 3);
+        Due.due("by no more than & and & take", behind.arrival(0, 11, 0), 4);
+        Due.sentence(20, "of inputs, registers 0");
+        for (int name = 0; name < 6; name++) Due.due("input " + name, y.arrival(0, name, 0), 0);
+        WishToChip used = Due.built("p=ab^c^;q=p~;", "");
+        Due.due("p's LINE", used.arrival(0, 15, 0), 6);
+        Due.due("p as a TOKEN", used.arrival(0, 16, 0), 1);
     }
 
     // ---- promise 21
 
     private static void slack() {
+        Due.sentence(21, "SLACK of a LINE: CLOCK (1 to 500; 20 at first) less its ARRIVAL.");
+        Due.due("at first", Due.built("g=ab&;", "").worst(0, 0, -2), 18);
+        Due.due("LOAD is of its ARRIVAL", Due.built("g=ab&;p=gg&;h=gg|;q=h~;", "").worst(0, 0, -2), 20 - 10);
         Due.sentence(21, "its SLACK (i = -2: it may be below 0; NONE -10000)");
         WishToChip x = Due.built("p=ab^c^d^;", "");
         for (int clock = 1; clock <= 20; clock++) {
@@ -317,6 +384,7 @@ public final class GateEdges {
                 Due.due("one that is later", Due.built(text, "").worst(0, 0, -1), later);
             }
         }
+        Due.sentence(21, "THE WORST at a CORNER: the name (i = -1)");
         WishToChip corners = Due.built("g=ab&;h=a~~;", "h=a;");
         Due.due("at corner 0 alike", corners.worst(0, 0, -1), 6);
         corners.rule(1, 50);

@@ -316,9 +316,10 @@ public final class PlaceEdges {
     // ---- promise 27
 
     private static void swappedOrNot() {
-        Due.sentence(27, "that by which WIRE is least, of several the first, if it is less than it was");
+        Due.sentence(27, "SWAPPED: how often.");
         Due.due("without BLOCKS", new WishToChip().swap(), 0);
         Due.due("without NETS", Due.blocks(MOST_BLOCKS).swap(), 0);
+        Due.sentence(27, "that by which WIRE is least, of several the first, if it is less than it was");
         WishToChip best = Due.blocks(2, 3);
         Due.due("as little as can be", best.swap(), 0);
         Due.due("nothing moved", Due.placeOf(best, 0) * 10 + Due.placeOf(best, 1), 1);

@@ -362,14 +362,12 @@ public final class RefusedEdges {
         for (String text : faults) unchanged("touched by " + text, () -> retold(0, text), NO, WishToChip::touched);
         unchanged("touched by a RING", () -> retold(0, "o=n;n=o;"), NO, WishToChip::touched);
         unchanged("touched by a LACK", () -> retold(0, "g=a;p=o;"), NO, WishToChip::touched);
-        Due.due("touched, though THE NET's TEXT may not be BUILT", retold(1, "g").touched(), 0);
+        Due.due("touched, though THE NET's TEXT may not be BUILT", retold(1, "g").touched(), Due.bits("ghpq"));
     }
 
-    /** Both VIEWS BUILT, STEPPED, and then one TEXT told anew. */
+    /** In the midst of things one TEXT is told anew. */
     private static WishToChip retold(int view, String text) {
-        WishToChip x = Due.built("g=ab&;p=gp^;", "h=ab|;q=h~;");
-        x.state(0x19);
-        x.step(2, 1);
+        WishToChip x = midst();
         Due.retell(x, view, text);
         return x;
     }
@@ -383,13 +381,19 @@ public final class RefusedEdges {
         }
         sentence(38, "NO", "As KEPT last (STEPS there were, and values of the last one, stay): how many are left. NO.");
         unchanged("back of a new one", WishToChip::new, NO, WishToChip::back);
-        unchanged("back, nothing KEPT", () -> retold(0, "g=a;"), NO, WishToChip::back);
+        unchanged("back, what was KEPT is back", () -> backInTheMidst(), NO, WishToChip::back);
         unchanged("back, nothing KEPT any more", () -> backAsOftenAsKept(), NO, WishToChip::back);
     }
 
     private static WishToChip retoldAndBuilt() {
         WishToChip x = retold(0, "g=b;");
         x.build(0);
+        return x;
+    }
+
+    private static WishToChip backInTheMidst() {
+        WishToChip x = midst();
+        x.back();
         return x;
     }
 
@@ -453,6 +457,7 @@ public final class RefusedEdges {
         sentence(37, "FULL", "KEPT are both VIEWS, registers, START, ENDS, 2 at most.");
         unchanged("a third one KEPT", RefusedEdges::allFull, FULL, WishToChip::keep);
         unchanged("a third one KEPT of nothing", () -> keptTwice(), FULL, WishToChip::keep);
+        unchanged("a third one KEPT in the midst", () -> keptAgain(), FULL, WishToChip::keep);
         sentence(31, "FULL", "Of several the first; nothing changes then.");
         unchanged("BAD ahead of FULL: trial", RefusedEdges::allFull, BAD, x -> x.trial(1024));
         unchanged("BAD ahead of FULL: net", RefusedEdges::allFull, BAD, x -> x.net(1));
@@ -460,6 +465,13 @@ public final class RefusedEdges {
         unchanged("BAD ahead of NO: ring", () -> retold(0, "g"), BAD, x -> x.ring(0, 2));
         unchanged("BAD ahead of NO: place", () -> Due.blocks(2), BAD, x -> x.place(2, 1));
         unchanged("BAD ahead of NO: value", WishToChip::new, BAD, x -> x.value(19));
+    }
+
+    private static WishToChip keptAgain() {
+        WishToChip x = midst();
+        x.keep();
+        x.start(11);
+        return x;
     }
 
     private static WishToChip keptTwice() {

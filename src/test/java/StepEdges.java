@@ -13,6 +13,7 @@ public final class StepEdges {
         valuesOfTheLastStep();
         noStepSinceBuilt();
         rowsOfTruth();
+        gatesOfTruth();
         valueWithoutLine();
         howManyOnes();
         startOfStates();
@@ -97,7 +98,7 @@ public final class StepEdges {
         return x.value(6);
     }
 
-    /** x where 0 and 1 in its place would not come to the same. */
+    /** ? of 0, 1 or x each. */
     private static int chosen(int a, int b, int c) {
         if (a != X) return a == 1 ? b : c;
         return b == c && b != X ? b : X;
@@ -209,6 +210,26 @@ public final class StepEdges {
         Due.due("the first ROW alone", ends.ones(0, 7), 1);
     }
 
+    private static void gatesOfTruth() {
+        Due.sentence(11, "and ~ (of the value on top), & | ^ (of the two on top), ? (of the three on top: the undermost chooses: 1 the middle one, 0 the topmost)");
+        String text = "g=a~;h=ab&;i=ab|;j=ab^;k=abc?;l=abcde??;m=abc?d~e?;n=0;o=1;p=abp?;q=ab~&c|~;";
+        for (int view = 0; view < 2; view++) {
+            for (int inputs = 0; inputs < 32; inputs++) {
+                WishToChip x = Due.built(text, text);
+                int a = inputs & 1;
+                int b = inputs >> 1 & 1;
+                int c = inputs >> 2 & 1;
+                int d = inputs >> 3 & 1;
+                int e = inputs >> 4 & 1;
+                int[] due = {1 - a, a & b, a | b, a ^ b, chosen(a, b, c), chosen(a, b, chosen(c, d, e)),
+                    chosen(chosen(a, b, c), 1 - d, e), 0, 1};
+                for (int k = 0; k < due.length; k++) Due.due(Due.letter(6 + k) + " by " + inputs, x.truth(view, 6 + k, inputs), due[k]);
+                for (int p = 0; p < 2; p++) Due.due("NEXT of p by " + inputs, x.truth(view, 15, inputs | p << 6), chosen(a, b, p));
+                Due.due("NEXT of q by " + inputs, x.truth(view, 16, inputs), 1 - (a & 1 - b | c));
+            }
+        }
+    }
+
     private static void valueWithoutLine() {
         Due.sentence(11, "a wire by its LINE (without one: 0); a register's NEXT by its LINE (without one: as it is)");
         for (int view = 0; view < 2; view++) {
@@ -268,6 +289,11 @@ public final class StepEdges {
     }
 
     private static void statesThatCanBe() {
+        Due.sentence(14, "STATES that can be, as bits.");
+        Due.due("the least: START alone", new WishToChip().states(), 1);
+        WishToChip fifteen = new WishToChip();
+        fifteen.start(15);
+        Due.due("bit 15", fifteen.states(), 1 << 15);
         Due.sentence(14, "and each that THE WISH comes to from one of them by some inputs");
         Due.due("START alone", Due.built("p=0;q=0;r=0;s=0;", "").states(), 1);
         Due.due("all", Due.built("p=a;q=b;r=c;s=d;", "").states(), 0xFFFF);

@@ -410,6 +410,16 @@ public final class TextEdges {
     // ---- promise 7
 
     private static void lines() {
+        Due.sentence(7, "Of a name's LINE in a VIEW as BUILT:");
+        WishToChip since = Due.built("g=ab&;", "");
+        Due.put(since, 0, "h=g~;");
+        Due.due("a LINE told since", since.line(0, 7, 0), NONE);
+        Due.due("g is no TOKEN yet", since.line(0, 6, 2), 0);
+        since.clear(0);
+        Due.due("g is still BUILT", since.line(0, 6, 0), 3);
+        Due.retell(since, 0, "g=g;");
+        Due.due("what may not be BUILT", since.build(0), NO);
+        Due.due("g is still BUILT", since.line(0, 6, 1), Due.bits("ab"));
         Due.sentence(7, "0 how many TOKENS, 1 names it leans on through wires (bits), 2 how often it is a TOKEN in the VIEW");
         WishToChip least = Due.built("g=0;", "");
         Due.due("least TOKENS", least.line(0, 6, 0), 1);

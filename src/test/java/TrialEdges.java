@@ -22,6 +22,7 @@ public final class TrialEdges {
         fewestOfTrials();
         leastBits();
         seenOfTrials();
+        nothingSeenAtFirst();
         couldBe();
         couldByNumbers();
         noneFails();
@@ -101,6 +102,12 @@ public final class TrialEdges {
     }
 
     private static void nextIsNotStuck() {
+        Due.sentence(29, "A ROW's FAILS by a FAULT: ENDS whose VALUE is otherwise with it, as bits of names. It FINDS a FAULT, if there are any.");
+        WishToChip alike = Due.built("", "g=a;h=a~;i=aa^;");
+        Due.due("otherwise, be it 0 or 1; i is not", alike.fails(1, 0), Due.bits("gh"));
+        Due.due("the same ROW FINDS it", alike.finds(1), 0);
+        alike.ends(Due.bits("i"));
+        Due.due("no END is otherwise: not found", alike.finds(1), NONE);
         Due.sentence(29, "a register's END is its NEXT (by its LINE; not stuck there)");
         for (int name = 15; name <= 18; name++) {
             char r = Due.letter(name);
@@ -300,6 +307,24 @@ public final class TrialEdges {
         Due.due("0 is something SEEN", x.see(0, -1), 0);
     }
 
+    private static void nothingSeenAtFirst() {
+        Due.sentence(34, "SEEN of a TRIAL are FAILS of a made one (or nothing, at first).");
+        WishToChip x = Due.built("", "g=a;");
+        for (int k = 0; k < MOST_TRIALS; k++) {
+            x.trial(1);
+            Due.due("all COULD be", x.could(-1), 39);
+        }
+        for (int k = 0; k < MOST_TRIALS; k++) Due.due("nothing of " + k, x.see(k, -1), -1);
+        x.see(9, 64);
+        Due.due("of the last", x.could(-1), 2);
+        x.noTrials();
+        for (int k = 0; k < MOST_TRIALS; k++) x.trial(1);
+        Due.due("nothing of a new one, though one ahead of it was SEEN", x.see(9, -1), -1);
+        Due.rebuild(x, 1, "");
+        Due.due("FAILS that no FAULT has may be SEEN", x.see(0, Due.ALL_ENDS), -1);
+        Due.due("none COULD be", x.could(-1), 0);
+    }
+
     // ---- promise 35
 
     private static void dueCould(WishToChip x, List<Integer> faults) {
@@ -353,6 +378,8 @@ public final class TrialEdges {
         dueCould(seen("g=a;", new int[] {1}, new int[] {64}), List.of(0, 12));
         dueCould(seen("g=a;h=ab&;", new int[] {3}, new int[] {64}), List.of(12));
         dueCould(seen("g=ab&;", new int[] {3, 0}, new int[] {0, 64}), List.of(13));
+        dueCould(seen("g=ab&;h=a;", new int[] {3}, new int[] {Due.bits("gh")}), List.of(0));
+        dueCould(seen("g=s;s=s~;", new int[] {0}, new int[] {Due.bits("gs")}), List.of(37));
         dueCould(seen("g=a;", new int[] {1, 1}, new int[] {64, 0}), List.of());
     }
 
@@ -423,7 +450,7 @@ public final class TrialEdges {
     // ---- promises 37, 38
 
     private static void mostKept() {
-        Due.sentence(37, "KEPT are both VIEWS, registers, START, ENDS, 2 at most.");
+        Due.sentence(37, "KEPT: how many. FULL.");
         WishToChip x = new WishToChip();
         Due.due("first", x.keep(), 1);
         Due.due("second", x.keep(), 2);
@@ -439,7 +466,7 @@ public final class TrialEdges {
     }
 
     private static void backAsKept() {
-        Due.sentence(38, "As KEPT last (STEPS there were, and values of the last one, stay): how many are left. NO.");
+        Due.sentence(38, "KEPT are both VIEWS, registers, START, ENDS, 2 at most.");
         WishToChip x = Due.built("g=a;", "h=b~;");
         x.state(0x15);
         x.start(1);
@@ -471,6 +498,21 @@ public final class TrialEdges {
         Due.due("START", x.start(0), 1);
         Due.due("ENDS", x.ends(0), 64);
         Due.due("no more", x.back(), NO);
+        WishToChip others = Due.built("g=a;", "h=b;");
+        others.keep();
+        Due.put(others, 0, "i=a;");
+        for (int k = 0; k < 3; k++) others.block();
+        others.net(3);
+        others.trial(5);
+        others.see(0, 0);
+        others.rule(4, 7);
+        others.gate(0, 0, 9);
+        others.back();
+        int[] due = {8, 4, 1, 1, 3, 1, 1, 0, 0};
+        for (int what = 0; what <= 8; what++) Due.due("what is not KEPT stays: count(" + what + ")", others.count(what), due[what]);
+        Due.due("SEEN stays", others.see(0, -1), 0);
+        Due.due("CLOCK stays", others.rule(4, 20), 7);
+        Due.due("PRICE stays", others.gate(0, 0, 1), 9);
     }
 
     private static void stepsStay() {

@@ -2,7 +2,8 @@ import java.util.Arrays;
 
 /**
  * All that an object tells, so that an object behind a refused call can be held against one without that call.
- * Together it takes more calls than an object has: each part is for a new pair of objects.
+ * Together it takes more calls than an object has: each part is for a new pair of objects. It asks for BLOCKS, NETS and
+ * TRIALS that there are alone: what a refused call would spoil must not be spoilt on both sides by asking.
  */
 final class Whole {
     static final int PARTS = 5;
@@ -81,7 +82,8 @@ final class Whole {
     }
 
     private void places() {
-        for (int block = 0; block < 7; block++) add(Due.placeOf(x, block));
+        int blocks = x.count(4);
+        for (int block = 0; block < blocks; block++) add(Due.placeOf(x, block));
     }
 
     private void told() {
@@ -98,7 +100,8 @@ final class Whole {
 
     private void numbersAndPlaces() {
         told();
-        for (int i = 0; i < 10; i++) {
+        int trials = x.count(6);
+        for (int i = 0; i < trials; i++) {
             int seen = x.see(i, -1);
             x.see(i, seen);
             add(seen);
@@ -116,8 +119,10 @@ final class Whole {
             add(was);
         }
         places();
-        for (int net = -1; net < 8; net++) add(x.wire(net));
-        for (int block = -1; block < 7; block++) add(x.least(block));
+        int nets = x.count(5);
+        for (int net = -1; net < nets; net++) add(x.wire(net));
+        int blocks = x.count(4);
+        for (int block = -1; block < blocks; block++) add(x.least(block));
         add(x.swap());
         places();
         add(x.wire(-1));
